@@ -599,11 +599,11 @@ public final class SlippedBlocks {
 
     /** The text, and the reading of it. */
     private static final class Text {
+        private static final char NO_ITEM = ' ';
+
         private final char[] letters = new char[MOST_LETTERS];
         private int length = 0;
-
         /** The item that is being read: its letter, or NO_ITEM between items; and its figures so far. */
-        private static final char NO_ITEM = ' ';
         private char item = NO_ITEM;
         private int figures = 0;
 
@@ -720,6 +720,7 @@ public final class SlippedBlocks {
      */
     private static final class RowSearch {
         private final int[] shortRow = new int[MOST_INKS];
+        private int palette = 0;
         private boolean found = false;
         private int fewest = 0;
         /** The best row, an octal figure for each place: so the lesser number is the row that comes first. */
@@ -729,26 +730,28 @@ public final class SlippedBlocks {
             found = false;
             fewest = 0;
             best = 0;
-            grow(work, work.palette(), 0, 0, 1);
+            palette = work.palette();
+            grow(this, work, 0, 0, 1);
         }
 
         int inkAt(int place, int inks) {
             return best >> 3 * (inks - 1 - place) & 7;
         }
 
-        private void grow(Work work, int palette, int length, int used, int colours) {
-            if ((palette & ~colours) == 0) {
-                settle(work.inks, length, used);
+        /** Goes on from a short row that makes these colours; used: its inks, as bits. No deeper than there are inks. */
+        private static void grow(RowSearch search, Work work, int length, int used, int colours) {
+            if ((search.palette & ~colours) == 0) {
+                search.settle(work.inks, length, used);
                 return;
             }
-            if (length >= work.inks || found && length >= fewest) {
+            if (length >= work.inks || search.found && length >= search.fewest) {
                 return;
             }
             for (int ink = 0; ink < work.inks; ink++) {
                 if ((used >> ink & 1) == 0) {
-                    shortRow[length] = ink;
+                    search.shortRow[length] = ink;
                     int more = colours | work.coloursOver(colours, ink);
-                    grow(work, palette, length + 1, used | 1 << ink, more);
+                    grow(search, work, length + 1, used | 1 << ink, more);
                 }
             }
         }

@@ -594,6 +594,9 @@ public final class PromisesTest {
         orders("d4;c1;d2;c2;r3;", 2, 0, 1, 2, 3);
         orders("c1;d7;d2;r3;r0;", 2, 1, 2, 0);
         orders("c4;c1;d2;c7;r5;r3;r6;", 3, 2, 0, 1, 3);
+        orders("c4;d3;c5;c2;r7;", 2, 0, 1, 2, 3);
+        orders("c4;d3;c5;c2;c1;d7;r76;", 3, 0, 1, 2, 3, 4, 5);
+        orders("d6;c1;d4;c2;d7;c4;r3570;r1000;", 3, 0, 1, 2, 3, 4, 5);
         SlippedBlocks b = told("c1;d2;r3;");
         b.swaps(0, 1);
         due.is("14: whatever ORDER is", b.order(0), 1);
