@@ -738,7 +738,7 @@ public final class SlippedBlocks {
             return best >> 3 * (inks - 1 - place) & 7;
         }
 
-        /** Goes on from a short row that makes these colours; used: its inks, as bits. No deeper than there are inks. */
+        /** Goes on from a short row (used: its inks, as bits) that makes these colours; as deep as there are inks. */
         private static void grow(RowSearch search, Work work, int length, int used, int colours) {
             if ((search.palette & ~colours) == 0) {
                 search.settle(work.inks, length, used);
