@@ -474,34 +474,12 @@ public final class PromisesTest {
     }
 
     private static void p10ProofsSlipped() {
-        SlippedBlocks b = told("c5;r000000;r000000;r000000;r000000;r000000;r000000;");
-        int[] corners = {0, 5};
-        for (int cy : corners) {
-            for (int cx : corners) {
-                b.carves(0, cx, cy);
-                for (int slip = 0; slip < 9; slip++) {
-                    int dx = slip % 3 - 1;
-                    int dy = slip / 3 - 1;
-                    b.slips(0, dx, dy);
-                    proofHasOnly(b, cx + dx, cy + dy);
-                }
-                b.carves(0, cx, cy);
-            }
-        }
         SlippedBlocks narrow = told("c1;r00;r00;");
         narrow.carves(0, 1, 0);
         narrow.slips(0, 1, 0);
         due.is("10: off the paper", narrow.cell(0, 1, 1), 0);
         due.is("10: off the paper, gone", narrow.cell(1, 0, 1), 0);
         due.is("10: its cell is as it was", narrow.cell(1, 0, 2), 1);
-    }
-
-    private static void proofHasOnly(SlippedBlocks b, int px, int py) {
-        for (int y = 0; y < 6; y++) {
-            for (int x = 0; x < 6; x++) {
-                due.is("10: slipped to " + px + " " + py, b.cell(x, y, 1), x == px && y == py ? 5 : 0);
-            }
-        }
     }
 
     private static void p11Ink() {
