@@ -11,11 +11,13 @@ public final class EdgesTest {
         slippedOffThePaper();
         slipsOfEachStep();
         toldAnew();
+        toldSmaller();
         cutKeepsNothing();
         noLeast();
         leastOfAllInks();
         carvesThereAndBack();
         exchangedFirstAndLast();
+        exchangedEachPair();
         sixKnown();
         undoneRoundTheRing();
         undoOfEachKind();
@@ -32,6 +34,7 @@ public final class EdgesTest {
         whichNotTheSlipItHas();
         askOneTwoNone();
         askFirstAndLastCell();
+        askedAgain();
         imagesKeepNothingElse();
         imagesGone();
         nothingUndoneBehindBack();
@@ -227,6 +230,31 @@ public final class EdgesTest {
         }
     }
 
+    /** Nothing of a text that was told, or that had a fault, is left in the next one. */
+    private static void toldSmaller() {
+        String[] ends = {"", "x"};
+        for (String end : ends) {
+            SlippedBlocks b = new SlippedBlocks();
+            type(b, "d7;d6;d5;d4;d3;d2;" + "r777777;".repeat(6) + end);
+            due.is("the greatest text", b.tells(), end.isEmpty() ? 12 : -76);
+            b.clear();
+            tell(b, "c1;c2;r010;r002;");
+            due.is("W", b.count(0), 3);
+            due.is("H", b.count(1), 2);
+            due.is("inks", b.count(2), 2);
+            due.is("colours", b.count(3), 0b111);
+            due.is("wrong", b.wrong(), 2);
+            due.is("ink 0 is clear", b.ink(0, 1), 0);
+            due.is("ink 1 is clear", b.ink(1, 1), 0);
+            due.is("no seventh", b.made(4), BAD);
+            due.is("no column more", b.cell(3, 0, 0), BAD);
+            due.is("no row more", b.cell(0, 2, 0), BAD);
+            due.is("cuts", b.cuts(), 2);
+            due.is("nothing is wrong", b.wrong(), 0);
+            due.is("cells", b.count(4), 2);
+        }
+    }
+
     /** "each CELL is of the BLOCKS of just those INKS": what was carved is gone; "all SLIPS are 0, 0". */
     private static void cutKeepsNothing() {
         SlippedBlocks b = told("c1;c2;d7;r0120;r3330;");
@@ -356,6 +384,20 @@ public final class EdgesTest {
         SlippedBlocks one = told("c1;r0;");
         due.is("one ink has none to exchange with", one.swaps(0, 1), BAD);
         due.is("one ink with itself", one.swaps(0, 0), BAD);
+    }
+
+    /** "two INKS take each other's place in ORDER": whichever is named first, and the others stay. */
+    private static void exchangedEachPair() {
+        for (int ink = 0; ink < 6; ink++) {
+            for (int other = 0; other < 6; other++) {
+                SlippedBlocks b = told("c1;c2;c3;c4;c5;c6;r0;");
+                due.is("swaps(" + ink + ", " + other + ")", b.swaps(ink, other), ink == other ? BAD : 0);
+                for (int each = 0; each < 6; each++) {
+                    int place = each == ink ? other : each == other ? ink : each;
+                    due.is("place of " + each + " by swaps(" + ink + ", " + other + ")", b.ink(each, 2), place);
+                }
+            }
+        }
     }
 
     /** "(6 are known, older ones are lost)": after five, six, seven and eight things done. */
@@ -736,6 +778,31 @@ public final class EdgesTest {
         due.is("the last of one row", row.ask(), 5);
         SlippedBlocks one = told("c1;r0;");
         due.is("the only cell", one.ask(), 0);
+    }
+
+    /** "as it is when it is asked": what was asked before does not count. */
+    private static void askedAgain() {
+        SlippedBlocks b = told("c1;" + bare(6, 1));
+        b.carves(0, 5, 0);
+        for (int i = 0; i < 9; i++) {
+            due.is("asked " + i, b.ask(), 4);
+            due.is("how many " + i, b.which(0), 9);
+        }
+        b.carves(0, 5, 0);
+        due.is("an empty block", b.ask(), 0);
+        b.carves(0, 2, 0);
+        b.slips(0, 0, 1);
+        due.is("another block", b.ask(), 1);
+        b.sees(1, 0, 0);
+        due.is("less can be", b.ask(), 2);
+        due.is("order asked", b.order(-1), 0);
+        tell(b, "c1;d2;r03;");
+        due.is("order asked of another picture", b.order(-1), 2);
+        due.is("order of another picture", b.order(0), 1);
+        due.is("undone", b.undo(), 5);
+        due.is("order asked of the first one again", b.order(-1), 0);
+        due.is("its ink", b.order(0), 0);
+        due.is("it has but one", b.order(1), NONE);
     }
 
     /** "IMAGES 0, 1 keep all that 1 tells but THE TEXT; nothing else". */
