@@ -21,13 +21,20 @@ public final class RulesTest {
         "import", "package", "throw", "throws", "try", "catch", "finally", "synchronized", "assert", "protected",
         "volatile", "transient", "native", "var", "Object", "hashCode", "toString", "Random", "System\\.(?!arraycopy)",
         "\\w*Exact", "->", "::", "@\\w+"};
+    private static final List<String> LIBRARY = List.of(
+        "Integer.bitCount", "Long.bitCount", "Math.max", "Math.min", "System.arraycopy");
     private static final Due due = new Due();
 
     public static void main(String[] args) throws Exception {
         face();
         noSharedNames();
         classesInside();
-        source(Files.readString(Path.of(args[0])));
+        String text = Files.readString(Path.of(args[0]));
+        String code = text.replaceAll("(?s)/\\*.*?\\*/", "").replaceAll("//[^\n]*", "");
+        due.holds("signs 1 to 127 alone", text.chars().allMatch(sign -> sign >= 1 && sign <= 127));
+        bannedWords(code);
+        library(code);
+        methodsAreShort(text);
         due.end();
     }
 
@@ -92,14 +99,32 @@ public final class RulesTest {
         }
     }
 
-    private static void source(String text) {
-        due.holds("signs 1 to 127 alone", text.chars().allMatch(sign -> sign >= 1 && sign <= 127));
-        String code = text.replaceAll("(?s)/\\*.*?\\*/", "").replaceAll("//[^\n]*", "");
+    private static void bannedWords(String code) {
         for (String banned : BANNED) {
             String pattern = Character.isLetter(banned.charAt(0)) ? "\\b" + banned : banned;
             pattern = banned.matches("\\w+") ? pattern + "\\b" : pattern;
             Matcher m = Pattern.compile(pattern).matcher(code);
             due.holds("none of " + banned + (m.find() ? ": " + m.group() : ""), !m.reset().find());
         }
+    }
+
+    /** Rule 4, as far as the class uses the library: a call of another function is to be looked up there first. */
+    private static void library(String code) {
+        Matcher m = Pattern.compile("\\b[A-Z]\\w*[a-z]\\w*\\.\\w+").matcher(code);
+        while (m.find()) {
+            due.holds(m.group() + " is one of the library's functions that are used", LIBRARY.contains(m.group()));
+        }
+    }
+
+    /** Rule 11: some sixty lines; a method's head is indented by one step, or by two in a class inside. */
+    private static void methodsAreShort(String text) {
+        Matcher m = Pattern.compile("(?ms)^( {4}| {8})(?=[\\w<])[^\\n;=]*\\([^\\n;=]*\\) \\{$.*?^\\1\\}$").matcher(text);
+        int methods = 0;
+        while (m.find()) {
+            String method = m.group();
+            due.holds("short: " + method.lines().findFirst().orElse(""), method.lines().count() <= 60);
+            methods++;
+        }
+        due.holds("methods were found: " + methods, methods > 60);
     }
 }
